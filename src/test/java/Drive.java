@@ -1,0 +1,75 @@
+/** Common stretches of calls, so that a test can say where it starts from. */
+final class Drive {
+    private Drive() {
+    }
+
+    /** Sends a segment, delivers it and delivers its acknowledgement; both lists are empty ahead of it. */
+    static int pass(SluiceStream x) {
+        int bytes = x.send();
+        x.deliver(0);
+        x.deliverAck(0);
+        return bytes;
+    }
+
+    static void read(SluiceStream x, int bytes) {
+        for (int i = 0; i < bytes; i++) {
+            x.read();
+        }
+    }
+
+    static int sendAll(SluiceStream x) {
+        int bytes = 0;
+        for (int some = x.send(); some > 0; some = x.send()) {
+            bytes += some;
+        }
+        return bytes;
+    }
+
+    /** Segments of one byte each, at 0, 1 and so on. */
+    static SluiceStream singles(int count) {
+        SluiceStream x = new SluiceStream();
+        for (int i = 0; i < count; i++) {
+            x.write(i, 1);
+            x.send();
+        }
+        return x;
+    }
+
+    /** Delivers the segment that starts at a position, wherever it lies. */
+    static int deliverFrom(SluiceStream x, int start) {
+        for (int i = 0; i < x.segments(); i++) {
+            if (x.startOf(i) == start) {
+                return x.deliver(i);
+            }
+        }
+        throw new AssertionError("no segment from " + start);
+    }
+
+    /** A is 8, C is 16; 8-12 and 16-20 are lost, 12-16, 20-24 and 24-28 came; 28-32 is under way. */
+    static SluiceStream lossy() {
+        SluiceStream x = new SluiceStream();
+        x.write(0, 100);
+        pass(x);
+        pass(x);
+        x.setLimit(16);
+        sendAll(x);
+        x.setLimit(256);
+        x.lose(0);
+        x.lose(1);
+        x.deliver(0);
+        x.deliver(0);
+        x.deliverAck(0);
+        x.deliverAck(0);
+        x.send();
+        x.send();
+        x.deliver(0);
+        return x;
+    }
+
+    /** The same, in recovery: the third acknowledgement with the number 8 has come. */
+    static SluiceStream recovering() {
+        SluiceStream x = lossy();
+        x.deliverAck(0);
+        return x;
+    }
+}
