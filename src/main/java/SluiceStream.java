@@ -617,7 +617,7 @@ public final class SluiceStream {
         /** Writes the newest blocks into an acknowledgement and answers how many there are. */
         private int tellBlocks(Rows acks, int place) {
             int told = 0;
-            int lastTold = Integer.MAX_VALUE;
+            int lastTold = deliveries + 1;
             for (int i = 0; i < MOST_ACK_BLOCKS; i++) {
                 int start = newestBlockBefore(lastTold);
                 if (start != NONE) {

@@ -7,11 +7,14 @@ public final class AckTest {
         old();
         congestion();
         marks();
+        marksOfBlocks();
+        marksThatAreNotToldAgain();
         duplicates();
         edgeIsNoDuplicate();
         recoveryBegins();
         recoveryEnds();
         duplicatesInRecovery();
+        recoveryAfterTimeout();
         ahead();
         Check.close(AckTest.class);
     }
@@ -70,15 +73,19 @@ public final class AckTest {
         Check.due("promise 28: once for two segments", y.congestionWindow(), 12);
     }
 
-    private static void marks() {
-        SluiceStream x = Drive.lossy();
+    private static String marked(SluiceStream x) {
         StringBuilder marked = new StringBuilder();
         for (int p = 0; p < x.written(); p++) {
             if (x.isMarked(p)) {
                 marked.append(p).append(' ');
             }
         }
-        Check.due("promise 27: the blocks", marked.toString(), "12 13 14 15 20 21 22 23 ");
+        return marked.toString();
+    }
+
+    private static void marks() {
+        SluiceStream x = Drive.lossy();
+        Check.due("promise 27: the blocks", marked(x), "12 13 14 15 20 21 22 23 ");
         Check.due("promise 26: without the marked ones", x.inFlight(), 16);
         Check.due("promise 27: the last byte", x.isMarked(99), false);
         Check.refused("promise 27: -1", x, INDEX, () -> x.isMarked(-1));
@@ -94,6 +101,46 @@ public final class AckTest {
         Check.due("promise 27: above A", x.isMarked(20), true);
         SluiceStream none = new SluiceStream();
         Check.refused("promise 27: nothing written", none, INDEX, () -> none.isMarked(0));
+    }
+
+    private static void marksOfBlocks() {
+        SluiceStream x = Drive.singles(8);
+        for (int start : new int[] {4, 7, 2, 5}) {
+            Drive.deliverFrom(x, start);
+        }
+        Check.due("promise 10: three blocks at once", x.deliverAck(3), 0);
+        Check.due("promise 27: three blocks at once", marked(x), "2 4 5 7 ");
+        SluiceStream y = Drive.singles(8);
+        for (int start : new int[] {2, 4, 6}) {
+            Drive.deliverFrom(y, start);
+        }
+        y.loseAck(2);
+        y.loseAck(1);
+        y.deliverAck(0);
+        Check.due("promise 27: as many as are told", marked(y), "2 ");
+        for (int start : new int[] {1, 3, 5}) {
+            Drive.deliverFrom(y, start);
+            y.deliverAck(0);
+        }
+        Check.due("promise 27: grown together", marked(y), "1 2 3 4 5 6 ");
+    }
+
+    private static void marksThatAreNotToldAgain() {
+        SluiceStream x = new SluiceStream();
+        x.write(0, 1);
+        Drive.pass(x);
+        for (int p = 1; p <= 12; p++) {
+            x.write(p, 1);
+            x.send();
+        }
+        for (int start : new int[] {3, 5, 7, 9}) {
+            Drive.deliverFrom(x, start);
+            x.deliverAck(0);
+        }
+        Drive.deliverFrom(x, 1);
+        Check.due("promise 18: the oldest is not told", x.ackBlocks(0), 3);
+        Check.due("promise 10: one", x.deliverAck(0), 1);
+        Check.due("promise 27: what was told stays marked", marked(x), "3 5 7 9 ");
     }
 
     private static void duplicates() {
@@ -220,6 +267,24 @@ public final class AckTest {
         Check.due("promise 31: no second recovery", x.recoveryEnd(), 32);
         Check.due("promise 29: no second recovery", x.threshold(), before);
         Check.due("promise 5: X stays", x.send(), 0);
+    }
+
+    private static void recoveryAfterTimeout() {
+        SluiceStream x = Drive.recovering();
+        x.send();
+        x.send();
+        x.tick(100);
+        x.send();
+        x.duplicate(0);
+        x.duplicate(0);
+        for (int i = 0; i < 3; i++) {
+            Drive.deliverFrom(x, 28);
+            x.deliverAck(0);
+        }
+        Check.due("promise 31: a second one", x.recoveryEnd(), 12);
+        Check.due("promise 5: X became A", x.send(), 4);
+        Check.due("promise 13: X became A", x.startOf(x.segments() - 1), 8);
+        Check.due("promise 22: X became A", x.next(), 12);
     }
 
     private static void ahead() {

@@ -19,8 +19,10 @@ final class Drive {
 
     static int sendAll(SluiceStream x) {
         int bytes = 0;
-        for (int some = x.send(); some > 0; some = x.send()) {
+        int some = x.send();
+        for (int i = 0; i < 40 && some > 0; i++) {
             bytes += some;
+            some = x.send();
         }
         return bytes;
     }

@@ -10,6 +10,7 @@ public final class SendTest {
         sentAgainAcrossHighest();
         recovery();
         newBytesInRecovery();
+        recoveryBelowMarks();
         fullList();
         Check.close(SendTest.class);
     }
@@ -86,6 +87,12 @@ public final class SendTest {
         x.deliverAck(0);
         Check.due("promise 30: the probe's acknowledgement", x.duplicates(), 1);
         Check.due("promise 25: not moved", x.edge(), 32);
+        SluiceStream y = new SluiceStream();
+        y.write(0, 32);
+        for (int i = 0; i < 8; i++) {
+            Drive.pass(y);
+        }
+        Check.due("promise 5: no probe of what is not written", y.send(), 0);
     }
 
     private static void marks() {
@@ -183,6 +190,25 @@ public final class SendTest {
         x.deliverAck(0);
         Check.due("promise 31: ended", x.recoveryEnd(), SluiceStream.NONE);
         Check.due("promise 28: C is T", x.congestionWindow(), 8);
+    }
+
+    private static void recoveryBelowMarks() {
+        SluiceStream x = Drive.singles(8);
+        x.tick(8);
+        x.send();
+        for (int start : new int[] {5, 6, 7}) {
+            Drive.deliverFrom(x, start);
+            x.deliverAck(0);
+        }
+        Check.due("promise 31: marks above N", x.recoveryEnd(), 4);
+        Check.due("promise 5: from A to N", x.send(), 4);
+        Check.due("promise 5: no hole below N, so new bytes", x.send(), 1);
+        Check.due("promise 13: no hole below N", x.startOf(x.segments() - 1), 4);
+        Check.due("promise 22: a byte before the marks", x.next(), 5);
+        Check.due("promise 5: what is new is below a mark, too", x.send(), 1);
+        Check.due("promise 13: the same byte", x.startOf(x.segments() - 1), 4);
+        Check.due("promise 5: only marks are left", x.send(), 0);
+        Check.due("promise 22: past the marks", x.next(), 8);
     }
 
     private static void fullList() {
