@@ -77,7 +77,9 @@ public final class SluiceStream {
         if (position >= receiver.firstMissing || position < 0 || position >= values.length) {
             return NONE;
         }
-        receiver.passByte(ackList);
+        if (receiver.passByte()) {
+            receiver.makeAck(ackList);
+        }
         return values[position];
     }
 
@@ -374,7 +376,8 @@ public final class SluiceStream {
             if (hole >= toSend) {
                 return NONE;
             }
-            return hole == acked || hole < marks.lastFilled() ? hole : NONE;
+            boolean isBelowMark = marks.firstFilled(hole, sentBelow) < sentBelow;
+            return hole == acked || isBelowMark ? hole : NONE;
         }
 
         /** Where a segment from here ends that reaches to a bound or to a mark at the latest. */
@@ -425,7 +428,7 @@ public final class SluiceStream {
             slowFrom = halfOfFlying();
             congestion = CONGESTION_AFTER_TIMEOUT;
             timer.backOff();
-            marks.empty(0, MOST_BYTES);
+            marks.empty(acked, sentBelow);
             toSend = acked;
             recoversTo = NONE;
             duplicateCount = 0;
@@ -457,9 +460,9 @@ public final class SluiceStream {
 
         private void advanceTo(int number) {
             timer.endTiming(number);
+            marks.empty(acked, number);
             acked = number;
             toSend = Math.max(toSend, acked);
-            marks.empty(0, acked);
             duplicateCount = 0;
             if (recoversTo == NONE) {
                 growCongestion();
@@ -596,12 +599,11 @@ public final class SluiceStream {
             return brought;
         }
 
-        void passByte(Rows acks) {
+        /** Goes on to the next byte to be read and tells whether that makes room worth telling of. */
+        boolean passByte() {
             int before = room();
             readAt++;
-            if (before < WINDOW_WORTH_TELLING && room() >= WINDOW_WORTH_TELLING) {
-                makeAck(acks);
-            }
+            return before < WINDOW_WORTH_TELLING && room() >= WINDOW_WORTH_TELLING;
         }
 
         void makeAck(Rows acks) {
@@ -671,8 +673,9 @@ public final class SluiceStream {
         }
 
         private int blockFrom(int position) {
-            int start = held.firstFilled(position, MOST_BYTES);
-            return start < MOST_BYTES ? start : NONE;
+            int reach = readAt + RECEIVER_ROOM;
+            int start = held.firstFilled(position, reach);
+            return start < reach ? start : NONE;
         }
     }
 
@@ -726,14 +729,6 @@ public final class SluiceStream {
             int p = from;
             while (p < to && at(p) == 0) {
                 p++;
-            }
-            return p;
-        }
-
-        int lastFilled() {
-            int p = numbers.length - 1;
-            while (p >= 0 && at(p) == 0) {
-                p--;
             }
             return p;
         }
