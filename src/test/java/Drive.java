@@ -47,6 +47,64 @@ final class Drive {
         throw new AssertionError("no segment from " + start);
     }
 
+    /** The same eight segments, of which those at these positions came and were acknowledged, one by one. */
+    static SluiceStream holding(int... starts) {
+        SluiceStream x = singles(8);
+        bring(x, starts);
+        return x;
+    }
+
+    /** Delivers the segments that start there, each with its acknowledgement, the only one in the list. */
+    static void bring(SluiceStream x, int... starts) {
+        for (int start : starts) {
+            deliverFrom(x, start);
+            x.deliverAck(0);
+        }
+    }
+
+    /** Doubles a segment until the list has so many. */
+    static void fill(SluiceStream x, int place, int segments) {
+        for (int i = x.segments(); i < segments; i++) {
+            x.duplicate(place);
+        }
+    }
+
+    /** All 28 bytes are acknowledged, C is 36 and the edge 52; then so many more are sent. */
+    static SluiceStream flying(int bytes) {
+        SluiceStream x = new SluiceStream();
+        x.write(0, 28);
+        for (int i = 0; i < 6; i++) {
+            pass(x);
+        }
+        read(x, 20);
+        pass(x);
+        x.write(0, bytes);
+        sendAll(x);
+        return x;
+    }
+
+    /** A byte was acknowledged without a sample, and the timeout is 64: so the first sample may be up to 63. */
+    static SluiceStream patient() {
+        SluiceStream x = new SluiceStream();
+        x.write(0, 1);
+        for (int ticks = 8; ticks < 64; ticks *= 2) {
+            x.send();
+            x.tick(ticks);
+            x.lose(0);
+        }
+        pass(x);
+        return x;
+    }
+
+    /** Sends a new byte and has it acknowledged after so many ticks. */
+    static void trip(SluiceStream x, int ticks) {
+        x.write(0, 1);
+        x.send();
+        x.tick(ticks);
+        x.deliver(0);
+        x.deliverAck(0);
+    }
+
     /** A is 8, C is 16; 8-12 and 16-20 are lost, 12-16, 20-24 and 24-28 came; 28-32 is under way. */
     static SluiceStream lossy() {
         SluiceStream x = new SluiceStream();
