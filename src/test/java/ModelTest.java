@@ -9,6 +9,8 @@ public final class ModelTest {
     private static final int CALLS = 512;
     private static final int KINDS = 10;
     private static final int WRITE = 0;
+    private static final int TICK = 4;
+    private static final int LOSE = 6;
     private static final int DUPLICATE = 7;
     private static final int DELIVER_ACK = 8;
     private static final int LOSE_ACK = 9;
@@ -34,7 +36,13 @@ public final class ModelTest {
         // Runs of one temper go further into corners than a mean of all of them does.
         singles = random.nextInt(5) == 0;
         inPlace = !singles && random.nextInt(3) > 0;
-        longestTick = random.nextBoolean() ? 3 : 100;
+        // Timeouts while much is under way leave old acknowledgements, and marks behind N.
+        boolean hasty = random.nextInt(4) == 0;
+        longestTick = hasty ? 8 : random.nextBoolean() ? 3 : 100;
+        if (hasty) {
+            weights[TICK] += 15;
+            weights[LOSE] = 1;
+        }
         if (singles) {
             weights[WRITE] += 60;
         }
@@ -92,13 +100,13 @@ public final class ModelTest {
             }
             case 3:
                 return same("send()", stream::send, model.send());
-            case 4: {
+            case TICK: {
                 int ticks = odd ? odd() : 1 + random.nextInt(longestTick);
                 return same("tick(" + ticks + ")", () -> stream.tick(ticks), model.tick(ticks));
             }
             case 5:
                 return same("deliver(" + segment + ")", () -> stream.deliver(segment), model.deliver(segment));
-            case 6:
+            case LOSE:
                 return same("lose(" + segment + ")", () -> stream.lose(segment), model.lose(segment));
             case DUPLICATE:
                 return same("duplicate(" + segment + ")", () -> stream.duplicate(segment), model.duplicate(segment));
